@@ -330,7 +330,6 @@ public final class EditFinder {
 
         ByteRow(int room) {
             cells = new byte[Math.max(room, 0)];
-            size = 0;
         }
 
         void clear() {
@@ -394,8 +393,6 @@ public final class EditFinder {
             for (int i = 0; i < UNDO_ROOM; i++) {
                 rows[i] = new ByteRow(TEXT_ROOM);
             }
-            newest = 0;
-            count = 0;
         }
 
         void keep(ByteRow row) {
@@ -427,7 +424,6 @@ public final class EditFinder {
         SetRow(int room) {
             low = new long[Math.max(room, 0)];
             high = new long[Math.max(room, 0)];
-            size = 0;
         }
 
         void clear() {
@@ -470,7 +466,7 @@ public final class EditFinder {
     /** Reads a row of bytes as a pattern's elements. */
     private static final class Reader {
         private static final long ALL_LOW = 1L << NEW_LINE | -1L << FIRST_PRINTED;
-        private static final long ALL_HIGH = Long.MAX_VALUE;
+        private static final long ALL_HIGH = -1L >>> 1;
 
         private ByteRow row;
         private int at;
@@ -483,10 +479,6 @@ public final class EditFinder {
         Reader() {
             row = new ByteRow(0);
             sets = new SetRow(SET_ROOM);
-            at = 0;
-            low = 0;
-            high = 0;
-            fault = 0;
             faultPlace = NONE;
         }
 
@@ -616,15 +608,9 @@ public final class EditFinder {
 
         Search() {
             sets = new SetRow(0);
-            setCount = 0;
-            bound = 0;
-            swaps = false;
             now = new int[SET_ROOM + 1];
             last = new int[SET_ROOM + 1];
             older = new int[SET_ROOM + 1];
-            top = 0;
-            place = 0;
-            fed = 0;
             lastByte = NEW_LINE;
         }
 
@@ -740,11 +726,6 @@ public final class EditFinder {
         Ruler() {
             sets = new SetRow(0);
             bytes = new ByteRow(0);
-            from = 0;
-            span = 0;
-            swaps = false;
-            lowest = 0;
-            highest = 0;
             now = new int[TEXT_ROOM + 1];
             last = new int[TEXT_ROOM + 1];
             older = new int[TEXT_ROOM + 1];
@@ -752,7 +733,6 @@ public final class EditFinder {
             lastByte = NEW_LINE;
             thisHalf = sets.low;
             lastHalf = sets.low;
-            tracing = false;
             table = new StepTable();
         }
 
@@ -905,8 +885,6 @@ public final class EditFinder {
         StepTable() {
             // As many columns as a hit has bytes at most, as many diagonals as its edits and one more.
             words = new long[(STEP_ROOM + 1) * (MOST_EDITS + 1) / IN_WORD + 1];
-            lowest = 0;
-            width = 0;
         }
 
         void widen(int lowestDiagonal, int highestDiagonal) {
@@ -942,7 +920,6 @@ public final class EditFinder {
 
         Way() {
             steps = new byte[STEP_ROOM];
-            size = 0;
         }
 
         void clear() {
@@ -976,13 +953,11 @@ public final class EditFinder {
         Hits() {
             text = new ByteRow(TEXT_ROOM);
             sets = new SetRow(SET_ROOM);
-            swaps = false;
             traced = NONE;
             way = new Way();
             places = new int[TEXT_ROOM];
             edits = new int[TEXT_ROOM];
             beginnings = new int[TEXT_ROOM];
-            count = 0;
         }
 
         void reset(SetRow sought, ByteRow searched, boolean withSwaps) {
@@ -1018,7 +993,6 @@ public final class EditFinder {
 
         LineList() {
             numbers = new int[LINE_ROOM];
-            count = 0;
         }
 
         void clear() {

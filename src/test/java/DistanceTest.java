@@ -48,6 +48,13 @@ public final class DistanceTest {
     }
 
     private static void replacingWithEdits() {
+        EditFinder x = Check.withText("abab");
+        Check.pattern(x, 0, "ab");
+        Check.type(x, "cabc");
+        Check.due("once", x.replace(0, 0, false), 2);
+        Check.type(x, "x");
+        Check.due("and again", x.replace(0, 0, false), 2);
+        Check.dueText("twice", x, "cxccxc");
         // the least place goes first, though a later one would be nearer
         dueReplaced("xabcx", "abc", 1, false, "-", 1, "x-cx");
         // behind a hit the rest is a text of its own: ab leaves c, which is two edits away
@@ -183,6 +190,13 @@ public final class DistanceTest {
         Check.due("points are the same", x.apart(0, 1, 4, 5, false, 0), 0);
         Check.due("other bytes", x.apart(0, 4, 5, 11, false, 9), 5);
         Check.due("10 is a byte", x.apart(10, 11, 10, 11, false, 0), 0);
+        String all = Check.allBytesBut("");
+        x = Check.withText(all + all);
+        Check.due("all bytes", x.apart(0, 96, 96, 192, false, 0), 0);
+        for (int i = 0; i < 95; i++) {
+            Check.due("byte and byte", x.apart(i, i + 1, 96 + i, 97 + i, false, 9), 0);
+            Check.due("byte and next byte", x.apart(i, i + 1, 97 + i, 98 + i, false, 9), 1);
+        }
     }
 
     private static void wrongDistances() {
@@ -211,6 +225,8 @@ public final class DistanceTest {
         Check.due("half and half, limit 750", x.apart(0, 750, 750, 1500, true, 750), 750);
         Check.due("half and half, limit 749", x.apart(0, 750, 750, 1500, true, 749), ABOVE);
         Check.due("all and nothing", x.apart(0, 1500, 0, 0, true, 1500), 1500);
+        Check.due("all and nothing, limit 2000", x.apart(0, 1500, 0, 0, true, 2000), 1500);
+        Check.due("nothing and all, limit 2000", x.apart(0, 0, 0, 1500, true, 2000), 1500);
         Check.due("nothing and all", x.apart(0, 0, 0, 1500, true, 1499), ABOVE);
         Check.due("all and all", x.apart(0, 1500, 0, 1500, true, 2000), 0);
         Check.due("all and all but one", x.apart(0, 1500, 0, 1499, true, 2000), 1);

@@ -2,9 +2,9 @@ import java.util.Random;
 
 /** All promises: long runs of calls, each answer held against PlainFinder's. The seeds are fixed, so runs repeat. */
 public final class ModelTest {
-    private static final int RUNS = 1500;
+    private static final int RUNS = 2000;
     private static final int CALLS = 300;
-    private static final int LARGE_RUNS = 3;
+    private static final int LARGE_RUNS = 4;
     private static final String[] ALPHABETS = {"ab", "ab\n", "abc", "abcd\n", "abx-", "a\n"};
     private static final String[] ELEMENTS = {"a", "b", "c", ".", "[ab]", "[^a]", "[b-d]", "\\a", "x", "[^\n]", "\n", "[b-a]"};
     private static final String PIECES = "ab[]^-\\.\nz";
@@ -14,11 +14,13 @@ public final class ModelTest {
     private final EditFinder x = new EditFinder();
     private final PlainFinder y = new PlainFinder();
     private final String alphabet;
+    private final int mostTyped;
     private final StringBuilder told = new StringBuilder();
 
     private ModelTest(long seed) {
         random = new Random(seed);
         alphabet = ALPHABETS[random.nextInt(ALPHABETS.length)];
+        mostTyped = random.nextInt(4) == 0 ? 60 : 12;
     }
 
     public static void main(String[] args) {
@@ -117,7 +119,7 @@ public final class ModelTest {
             int n = some(9);
             due("type " + w + " " + n, x.type(w, n), y.type(w, n));
         } else {
-            type(word(alphabet, 9));
+            type(word(alphabet, mostTyped));
         }
     }
 

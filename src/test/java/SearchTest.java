@@ -190,7 +190,12 @@ public final class SearchTest {
     }
 
     private static void wrongHits() {
-        EditFinder x = made("ab", "ab");
+        EditFinder x = made("abcb", "ab");
+        Check.due("find", x.find(0, 0, false), 1);
+        Check.due("a step before all else", x.step(0, 1), 0);
+        Check.due("find", x.find(0, 1, false), 4);
+        Check.due("a step of another find", x.step(0, 1), 3);
+        Check.due("a step of another hit", x.step(3, 0), 3);
         Check.due("find", x.find(0, 0, false), 1);
         for (int i : new int[] {-1, 1, 1500, Integer.MIN_VALUE, Integer.MAX_VALUE}) {
             for (int what = 0; what < 4; what++) {
@@ -279,8 +284,9 @@ public final class SearchTest {
         dueLines(over, 0, false);
         dueLines(over, 1, false);
         dueLines(over, 2, false, 0, 1);
-        EditFinder swap = made("b\na\nba", "cab");
-        dueLines(swap, 1, true);
+        // nor is one that swaps bytes over a line's end
+        dueLines(made("mb\nan", "mabn"), 1, true);
+        dueLines(made("mban", "mabn"), 1, true, 0);
         EditFinder swapped = made("dcba\ndbca", "dbca");
         dueLines(swapped, 0, true, 1);
         dueLines(swapped, 1, true, 0, 1);

@@ -1,6 +1,7 @@
 import java.util.ArrayDeque;
 import java.util.ArrayList;
 import java.util.BitSet;
+import java.util.Collections;
 import java.util.Deque;
 import java.util.List;
 import java.util.regex.Matcher;
@@ -280,46 +281,36 @@ final class PlainFinder {
     }
 
     /** For ways that are too many: from the end on, the step that is liked best and leaves as few edits as it must. */
-    private static String longWay(List<BitSet> sets, String bytes, boolean swaps, int edits) {
+    private static String longWay(List<BitSet> sets, String bytes, boolean swaps) {
+        List<BitSet> turned = new ArrayList<>(sets);
+        Collections.reverse(turned);
+        int[][] heads = distancesFromBehind(turned, new StringBuilder(bytes).reverse().toString(), swaps);
         StringBuilder way = new StringBuilder();
         int i = sets.size();
         int j = bytes.length();
-        int left = edits;
         while (i > 0 || j > 0) {
             boolean both = i > 0 && j > 0;
             boolean same = both && sets.get(i - 1).get(bytes.charAt(j - 1));
             boolean swap = swaps && i > 1 && j > 1
                 && sets.get(i - 1).get(bytes.charAt(j - 2)) && sets.get(i - 2).get(bytes.charAt(j - 1));
-            if (both && head(sets, bytes, swaps, i - 1, j - 1) == left - (same ? 0 : 1)) {
+            int left = heads[i][j];
+            if (both && heads[i - 1][j - 1] == left - (same ? 0 : 1)) {
                 way.append(same ? '0' : '1');
-                left -= same ? 0 : 1;
-                i--;
-                j--;
-            } else if (swap && head(sets, bytes, swaps, i - 2, j - 2) == left - 1) {
+            } else if (swap && heads[i - 2][j - 2] == left - 1) {
                 way.append('4');
-                left--;
-                i -= 2;
-                j -= 2;
-            } else if (j > 0 && head(sets, bytes, swaps, i, j - 1) == left - 1) {
-                way.append('2');
-                left--;
-                j--;
             } else {
-                way.append('3');
-                left--;
-                i--;
+                way.append(j > 0 && heads[i][j - 1] == left - 1 ? '2' : '3');
             }
+            char step = way.charAt(way.length() - 1);
+            i -= step == '4' ? 2 : step == '2' ? 0 : 1;
+            j -= step == '4' ? 2 : step == '3' ? 0 : 1;
         }
         return way.reverse().toString();
     }
 
-    private static int head(List<BitSet> sets, String bytes, boolean swaps, int i, int j) {
-        return distance(sets.subList(0, i), bytes.substring(0, j), swaps);
-    }
-
     private static String steps(List<BitSet> sets, String bytes, boolean swaps, int edits) {
         if (sets.size() > 7) {
-            return longWay(sets, bytes, swaps, edits);
+            return longWay(sets, bytes, swaps);
         }
         Ways ways = new Ways(sets, bytes, swaps);
         ways.go(0, 0, edits, "");
@@ -365,14 +356,14 @@ final class PlainFinder {
         if (!isThere(p) || what < 0 || what > 1) {
             return BAD;
         }
-        for (int k = 0; k <= 200; k++) {
-            for (int e = 1; e <= text.length(); e++) {
-                if (hitAt(patterns.get(p), text, e, k, swaps) != null) {
-                    return what == 0 ? k : e;
-                }
+        Hit best = null;
+        for (int e = 1; e <= text.length(); e++) {
+            Hit hit = hitAt(patterns.get(p), text, e, 200, swaps);
+            if (best == null || hit.distance < best.distance) {
+                best = hit;
             }
         }
-        return NONE;
+        return best == null ? NONE : what == 0 ? best.distance : best.e;
     }
 
     int lines(int p, int k, boolean swaps) {
