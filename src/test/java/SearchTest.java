@@ -287,6 +287,8 @@ public final class SearchTest {
         // nor is one that swaps bytes over a line's end
         dueLines(made("mb\nan", "mabn"), 1, true);
         dueLines(made("mban", "mabn"), 1, true, 0);
+        dueLines(made("mb\nan-p", "mabnop"), 2, true);
+        dueLines(made("mban-p", "mabnop"), 2, true, 0);
         EditFinder swapped = made("dcba\ndbca", "dbca");
         dueLines(swapped, 0, true, 1);
         dueLines(swapped, 1, true, 0, 1);
