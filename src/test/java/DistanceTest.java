@@ -21,30 +21,17 @@ public final class DistanceTest {
         Check.finish("DistanceTest");
     }
 
-    private static void dueReplaced(String text, String told, int k, boolean swaps, String by, int count, String due) {
-        EditFinder x = Check.withText(text);
-        Check.pattern(x, 0, told);
-        Check.type(x, by);
-        String call = "replace " + told + " in " + text;
-        Check.due(call, x.replace(0, k, swaps), count);
-        Check.due(call + " length", x.length(), due.length());
-        Check.dueText(call, x, due);
-        Check.due(call + " empties the tape", x.type('a', 1), 1);
-        Check.due(call + " can be undone", x.undo(), text.length());
-        Check.dueText(call + " undone", x, text);
-    }
-
     private static void replacing() {
-        dueReplaced("xabxab", "ab", 0, false, "-", 2, "x-x-");
-        dueReplaced("xabxab", "ab", 0, false, "", 2, "xx");
-        dueReplaced("abab", "ab", 0, false, "abab", 2, "abababab");
-        dueReplaced("aaaaa", "aa", 0, false, "b", 2, "bba");
-        dueReplaced("xyz", "ab", 0, false, "q", 0, "xyz");
-        dueReplaced("", "ab", 0, false, "q", 0, "");
-        dueReplaced("a\nb", ".", 0, false, "--", 2, "--\n--");
-        dueReplaced("a\nb", "[^a]", 0, false, "", 2, "a");
+        Check.dueReplaced("xabxab", "ab", 0, false, "-", 2, "x-x-");
+        Check.dueReplaced("xabxab", "ab", 0, false, "", 2, "xx");
+        Check.dueReplaced("abab", "ab", 0, false, "abab", 2, "abababab");
+        Check.dueReplaced("aaaaa", "aa", 0, false, "b", 2, "bba");
+        Check.dueReplaced("xyz", "ab", 0, false, "q", 0, "xyz");
+        Check.dueReplaced("", "ab", 0, false, "q", 0, "");
+        Check.dueReplaced("a\nb", ".", 0, false, "--", 2, "--\n--");
+        Check.dueReplaced("a\nb", "[^a]", 0, false, "", 2, "a");
         // what the tape brings is not looked at again
-        dueReplaced("ab", "ab", 0, false, "xab", 1, "xab");
+        Check.dueReplaced("ab", "ab", 0, false, "xab", 1, "xab");
     }
 
     private static void replacingWithEdits() {
@@ -56,20 +43,20 @@ public final class DistanceTest {
         Check.due("and again", x.replace(0, 0, false), 2);
         Check.dueText("twice", x, "cxccxc");
         // the least place goes first, though a later one would be nearer
-        dueReplaced("xabcx", "abc", 1, false, "-", 1, "x-cx");
+        Check.dueReplaced("xabcx", "abc", 1, false, "-", 1, "x-cx");
         // behind a hit the rest is a text of its own: ab leaves c, which is two edits away
-        dueReplaced("abcabc", "abc", 1, false, "-", 2, "-c-c");
-        dueReplaced("ba", "ab", 1, true, "-", 2, "--");
-        dueReplaced("mabdcz", "abcd", 1, true, "-", 1, "m-cz");
-        dueReplaced("macbdz", "abcd", 1, true, "-", 1, "m-z");
-        dueReplaced("macbdz", "abcd", 1, false, "-", 0, "macbdz");
+        Check.dueReplaced("abcabc", "abc", 1, false, "-", 2, "-c-c");
+        Check.dueReplaced("ba", "ab", 1, true, "-", 2, "--");
+        Check.dueReplaced("mabdcz", "abcd", 1, true, "-", 1, "m-cz");
+        Check.dueReplaced("macbdz", "abcd", 1, true, "-", 1, "m-z");
+        Check.dueReplaced("macbdz", "abcd", 1, false, "-", 0, "macbdz");
         // hits without bytes are passed over, one with bytes behind them is taken
-        dueReplaced("zzabzz", "ab", 2, false, "-", 2, "zz--zz");
-        dueReplaced("zzzz", "ab", 2, true, "-", 0, "zzzz");
-        dueReplaced("zzzz", "ab", 200, true, "-", 0, "zzzz");
-        dueReplaced("zaz", "a", 1, false, "-", 1, "z-z");
+        Check.dueReplaced("zzabzz", "ab", 2, false, "-", 2, "zz--zz");
+        Check.dueReplaced("zzzz", "ab", 2, true, "-", 0, "zzzz");
+        Check.dueReplaced("zzzz", "ab", 200, true, "-", 0, "zzzz");
+        Check.dueReplaced("zaz", "a", 1, false, "-", 1, "z-z");
         // a swap does not reach back over the end of a hit
-        dueReplaced("bab", "bab", 1, true, "", 1, "b");
+        Check.dueReplaced("bab", "bab", 1, true, "", 1, "b");
     }
 
     private static void replacingToTheEnd() {

@@ -1,10 +1,13 @@
 import java.util.Random;
+import java.util.function.IntSupplier;
 
 /** All promises: long runs of calls, each answer held against PlainFinder's. The seeds are fixed, so runs repeat. */
 public final class ModelTest {
-    private static final int RUNS = 2000;
-    private static final int CALLS = 300;
-    private static final int LARGE_RUNS = 4;
+    private static final int RUNS = 6000;
+    private static final int CALLS_OF_AN_OBJECT = 512;
+    private static final int LARGE_RUNS = 24;
+    private static final int HITS_SHOWN = 8;
+    private static final int PLACES_SHOWN = 20;
     private static final String[] ALPHABETS = {"ab", "ab\n", "abc", "abcd\n", "abx-", "a\n"};
     private static final String[] ELEMENTS = {"a", "b", "c", ".", "[ab]", "[^a]", "[b-d]", "\\a", "x", "[^\n]", "\n", "[b-a]"};
     private static final String PIECES = "ab[]^-\\.\nz";
@@ -16,6 +19,7 @@ public final class ModelTest {
     private final String alphabet;
     private final int mostTyped;
     private final StringBuilder told = new StringBuilder();
+    private int calls = 0;
 
     private ModelTest(long seed) {
         random = new Random(seed);
@@ -26,10 +30,9 @@ public final class ModelTest {
     public static void main(String[] args) {
         for (int run = 0; run < RUNS && Check.allDue(); run++) {
             ModelTest test = new ModelTest(run);
-            for (int call = 0; call < CALLS && Check.allDue(); call++) {
+            while (test.mayCall()) {
                 test.anyCall();
             }
-            test.compareTexts();
             test.explainIfWrong(run);
         }
         for (int run = 0; run < LARGE_RUNS && Check.allDue(); run++) {
@@ -46,9 +49,18 @@ public final class ModelTest {
         }
     }
 
-    private void due(String call, int got, int want) {
-        told.append("\n").append(call).append(" -> ").append(got);
-        Check.due(call, got, want);
+    /** Makes the call on both, as long as the document promises an answer. */
+    private void due(String call, IntSupplier ofFinder, IntSupplier ofModel) {
+        if (calls < CALLS_OF_AN_OBJECT) {
+            calls++;
+            int got = ofFinder.getAsInt();
+            told.append("\n").append(call).append(" -> ").append(got);
+            Check.due(call, got, ofModel.getAsInt());
+        }
+    }
+
+    private boolean mayCall() {
+        return calls < CALLS_OF_AN_OBJECT && Check.allDue();
     }
 
     /** A number that is mostly within 0 .. most, sometimes an edge. */
@@ -68,9 +80,12 @@ public final class ModelTest {
     private void type(String bytes) {
         for (int i = 0; i < bytes.length(); i += 8) {
             String part = bytes.substring(i, Math.min(bytes.length(), i + 8));
-            long w = Check.word(part);
-            due("type " + part, x.type(w, part.length()), y.type(w, part.length()));
+            type(Check.word(part), part.length());
         }
+    }
+
+    private void type(long w, int n) {
+        due("type " + w + " " + n, () -> x.type(w, n), () -> y.type(w, n));
     }
 
     private void anyCall() {
@@ -78,46 +93,30 @@ public final class ModelTest {
         int p = some(3);
         int k = random.nextInt(3) == 0 ? some(12) : some(3);
         switch (random.nextInt(16)) {
-            case 0 -> typeAny();
-            case 1 -> setPattern(p);
-            case 2 -> {
-                int at = some(y.length());
-                due("insert " + at, x.insert(at), y.insert(at));
-            }
-            case 3 -> change(p, k, swaps);
-            case 4 -> due("undo", x.undo(), y.undo());
-            case 5, 6 -> find(p, k, swaps);
-            case 7 -> {
-                int what = some(3);
-                int i = some(5);
-                due("hit " + i + " " + what, x.hit(i, what), y.hit(i, what));
-            }
-            case 8 -> {
-                int i = some(5);
-                int j = some(6);
-                due("step " + i + " " + j, x.step(i, j), y.step(i, j));
-            }
-            case 9, 10 -> {
-                int what = some(1);
-                due("nearest " + p + swaps + what, x.nearest(p, swaps, what), y.nearest(p, swaps, what));
-            }
+            case 0, 1 -> typeAny();
+            case 2 -> setPattern(p);
+            case 3 -> insert(some(y.length()));
+            case 4 -> change(p, k, swaps);
+            case 5 -> due("undo", x::undo, y::undo);
+            case 6, 7 -> find(p, k, swaps);
+            case 8 -> hit(some(5), some(3));
+            case 9 -> step(some(5), some(6));
+            case 10 -> nearest(p, swaps, some(1));
             case 11 -> lines(p, k, swaps);
-            case 12 -> whole(p, swaps);
-            case 13 -> {
-                int from = some(y.length());
-                int to = some(y.length());
-                due("which " + from + " " + to + swaps, x.which(from, to, swaps), y.which(from, to, swaps));
-            }
-            case 14 -> apart(swaps);
-            default -> looks(p);
+            case 12 -> whole(p, some(y.length()), some(y.length()), swaps, someLimit());
+            case 13 -> which(some(y.length()), some(y.length()), swaps);
+            case 14 -> apart(some(y.length()), some(y.length()), some(y.length()), some(y.length()), swaps, someLimit());
+            default -> look(p, some(6), some(126));
         }
+    }
+
+    private int someLimit() {
+        return some(random.nextBoolean() ? 6 : 100);
     }
 
     private void typeAny() {
         if (random.nextInt(10) == 0) {
-            long w = random.nextLong();
-            int n = some(9);
-            due("type " + w + " " + n, x.type(w, n), y.type(w, n));
+            type(random.nextLong(), some(9));
         } else {
             type(word(alphabet, mostTyped));
         }
@@ -131,117 +130,143 @@ public final class ModelTest {
                 type(ELEMENTS[random.nextInt(ELEMENTS.length)]);
             }
         }
-        due("pattern " + p, x.pattern(p), y.pattern(p));
-        due("place", x.place(), y.place());
+        pattern(p);
+        due("place", x::place, y::place);
+    }
+
+    private void pattern(int p) {
+        due("pattern " + p, () -> x.pattern(p), () -> y.pattern(p));
+    }
+
+    private void insert(int at) {
+        due("insert " + at, () -> x.insert(at), () -> y.insert(at));
     }
 
     private void change(int p, int k, boolean swaps) {
         if (random.nextInt(3) > 0) {
-            due("replace " + p + " " + k + swaps, x.replace(p, k, swaps), y.replace(p, k, swaps));
-            compareTexts();
+            replace(p, k, swaps);
         } else {
             int from = some(y.length());
-            int to = random.nextInt(8) == 0 ? some(y.length()) : Math.min(y.length(), from + random.nextInt(5));
-            due("cut " + from + " " + to, x.cut(from, to), y.cut(from, to));
+            cut(from, random.nextInt(8) == 0 ? some(y.length()) : Math.min(y.length(), from + random.nextInt(5)));
         }
+    }
+
+    private void cut(int from, int to) {
+        due("cut " + from + " " + to, () -> x.cut(from, to), () -> y.cut(from, to));
+    }
+
+    private void replace(int p, int k, boolean swaps) {
+        due("replace " + p + " " + k + " " + swaps, () -> x.replace(p, k, swaps), () -> y.replace(p, k, swaps));
+        due("length", x::length, y::length);
+        int first = random.nextInt(Math.max(1, y.length()));
+        for (int i = first; i < first + PLACES_SHOWN; i++) {
+            byteAt(i);
+        }
+    }
+
+    private void byteAt(int i) {
+        due("byteAt " + i, () -> x.byteAt(i), () -> y.byteAt(i));
     }
 
     private void find(int p, int k, boolean swaps) {
-        due("find " + p + " " + k + swaps, x.find(p, k, swaps), y.find(p, k, swaps));
-        if (random.nextInt(4) == 0) {
-            // later calls may not change what these answer
-            return;
+        due("find " + p + " " + k + " " + swaps, () -> x.find(p, k, swaps), () -> y.find(p, k, swaps));
+        // else later calls show whether the hits stay
+        if (random.nextInt(4) != 0) {
+            showHits();
         }
-        compareHits(40);
     }
 
-    private void compareHits(int most) {
-        for (int i = 0; y.hit(i, 0) > 0; i++) {
-            for (int what = 0; what < 3; what++) {
-                due("hit " + i + " " + what, x.hit(i, what), y.hit(i, what));
+    private void showHits() {
+        int first = random.nextInt(Math.max(1, y.hitCount()));
+        int last = Math.min(y.hitCount(), first + HITS_SHOWN);
+        for (int i = first; i < last && mayCall(); i++) {
+            for (int what = 0; what < 4; what++) {
+                hit(i, what);
             }
-            if (i < most || i % 97 == 0) {
-                due("hit " + i + " steps", x.hit(i, 3), y.hit(i, 3));
-                for (int j = 0; j <= y.hit(i, 3); j++) {
-                    due("step " + i + " " + j, x.step(i, j), y.step(i, j));
-                }
+            for (int j = 0; j <= y.hit(i, 3); j++) {
+                step(i, j);
             }
         }
+    }
+
+    private void hit(int i, int what) {
+        due("hit " + i + " " + what, () -> x.hit(i, what), () -> y.hit(i, what));
+    }
+
+    private void step(int i, int j) {
+        due("step " + i + " " + j, () -> x.step(i, j), () -> y.step(i, j));
+    }
+
+    private void nearest(int p, boolean swaps, int what) {
+        due("nearest " + p + " " + swaps + " " + what, () -> x.nearest(p, swaps, what), () -> y.nearest(p, swaps, what));
     }
 
     private void lines(int p, int k, boolean swaps) {
-        int count = y.lines(p, k, swaps);
-        due("lines " + p + " " + k + swaps, x.lines(p, k, swaps), count);
-        for (int i = -1; i <= count; i++) {
-            due("line " + i, x.line(i), y.line(i));
+        due("lines " + p + " " + k + " " + swaps, () -> x.lines(p, k, swaps), () -> y.lines(p, k, swaps));
+        for (int i = -1; i < 4; i++) {
+            line(i);
         }
     }
 
-    private void whole(int p, boolean swaps) {
-        int from = some(y.length());
-        int to = some(y.length());
-        int limit = some(random.nextBoolean() ? 6 : 100);
-        due("whole " + p + " " + from + " " + to + swaps + limit,
-            x.whole(p, from, to, swaps, limit), y.whole(p, from, to, swaps, limit));
+    private void line(int i) {
+        due("line " + i, () -> x.line(i), () -> y.line(i));
     }
 
-    private void apart(boolean swaps) {
-        int from = some(y.length());
-        int to = some(y.length());
-        int otherFrom = some(y.length());
-        int otherTo = some(y.length());
-        int limit = some(random.nextBoolean() ? 6 : 100);
-        due("apart " + from + " " + to + " " + otherFrom + " " + otherTo + swaps + limit,
-            x.apart(from, to, otherFrom, otherTo, swaps, limit), y.apart(from, to, otherFrom, otherTo, swaps, limit));
+    private void whole(int p, int from, int to, boolean swaps, int limit) {
+        due("whole " + p + " " + from + " " + to + " " + swaps + " " + limit,
+            () -> x.whole(p, from, to, swaps, limit), () -> y.whole(p, from, to, swaps, limit));
     }
 
-    private void looks(int p) {
-        int i = some(6);
-        int b = some(126);
-        due("has " + p + " " + i + " " + b, x.has(p, i, b), y.has(p, i, b));
-        due("byteAt " + i, x.byteAt(i), y.byteAt(i));
-        due("line " + i, x.line(i), y.line(i));
-        due("length", x.length(), y.length());
+    private void which(int from, int to, boolean swaps) {
+        due("which " + from + " " + to + " " + swaps, () -> x.which(from, to, swaps), () -> y.which(from, to, swaps));
     }
 
-    private void compareTexts() {
-        Check.dueText("the text", x, y.text());
+    private void apart(int from, int to, int otherFrom, int otherTo, boolean swaps, int limit) {
+        due("apart " + from + " " + to + " " + otherFrom + " " + otherTo + " " + swaps + " " + limit,
+            () -> x.apart(from, to, otherFrom, otherTo, swaps, limit), () -> y.apart(from, to, otherFrom, otherTo, swaps, limit));
     }
 
-    /** A text and patterns of the greatest lengths, some patterns being parts of the text with some edits. */
+    private void look(int p, int i, int b) {
+        due("has " + p + " " + i + " " + b, () -> x.has(p, i, b), () -> y.has(p, i, b));
+        byteAt(i);
+        line(i);
+        due("length", x::length, y::length);
+    }
+
+    /** A text and patterns of the greatest lengths, the patterns being parts of the text with some edits. */
     private void largeRun() {
         String letters = alphabet.contains("-") ? "abx" : alphabet;
-        while (y.length() < 1500) {
+        while (y.length() < 1500 && mayCall()) {
             type(word(letters, Math.min(400, 1500 - y.length())));
-            due("insert", x.insert(y.length()), y.insert(y.length()));
+            insert(y.length());
         }
-        for (int p = 0; p < 3; p++) {
-            int from = random.nextInt(1300);
-            StringBuilder part = new StringBuilder(y.text().substring(from, from + (p == 0 ? 190 : 30)));
-            for (int edit = 0; edit < 8; edit++) {
-                int at = random.nextInt(part.length() - 1);
-                part.insert(at, part.charAt(at + 1)).deleteCharAt(random.nextInt(part.length()));
-            }
-            type(part.toString());
-            due("pattern " + p, x.pattern(p), y.pattern(p));
+        for (int p = 0; p < 3 && mayCall(); p++) {
+            type(editedPart(p == 0 ? 190 : 30));
+            pattern(p);
         }
-        for (int p = 0; p < 3; p++) {
-            boolean swaps = p != 1;
-            due("nearest " + p, x.nearest(p, swaps, 1), y.nearest(p, swaps, 1));
-            due("lines " + p, x.lines(p, 9, swaps), y.lines(p, 9, swaps));
-            due("whole " + p, x.whole(p, 0, 1500, swaps, 2000), y.whole(p, 0, 1500, swaps, 2000));
-            due("find " + p, x.find(p, 8, swaps), y.find(p, 8, swaps));
-            compareHits(2);
-        }
-        for (int turn = 0; turn < 6; turn++) {
+        int longOne = random.nextInt(2);
+        boolean swaps = random.nextBoolean();
+        nearest(longOne, swaps, 1);
+        lines(longOne, 9, swaps);
+        whole(longOne, 0, 1500, swaps, 2000);
+        for (int turn = 0; turn < 4; turn++) {
             int from = random.nextInt(700);
-            int other = random.nextInt(1000);
-            int limit = turn < 3 ? 2000 : 100 + random.nextInt(500);
-            due("apart " + from + " " + other, x.apart(from, 1500 - from, other, 1500, turn % 2 == 0, limit),
-                y.apart(from, 1500 - from, other, 1500, turn % 2 == 0, limit));
+            apart(from, 1500 - from, random.nextInt(1000), 1500, turn % 2 == 0, turn < 2 ? 2000 : 100 + random.nextInt(500));
         }
+        find(2, 8, swaps);
         type("ba");
-        due("replace", x.replace(1, 9, true), y.replace(1, 9, true));
-        compareTexts();
+        replace(1, 9, swaps);
+        due("undo", x::undo, y::undo);
+        find(longOne, 8, swaps);
+    }
+
+    private String editedPart(int length) {
+        int from = random.nextInt(1300);
+        StringBuilder part = new StringBuilder(y.text().substring(from, from + length));
+        for (int edit = 0; edit < 8; edit++) {
+            int at = random.nextInt(part.length() - 1);
+            part.insert(at, part.charAt(at + 1)).deleteCharAt(random.nextInt(part.length()));
+        }
+        return part.toString();
     }
 }

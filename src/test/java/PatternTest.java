@@ -132,14 +132,7 @@ public final class PatternTest {
     }
 
     private static void rowsOfSets() {
-        EditFinder x = new EditFinder();
-        Check.due("a.\\.[xy]-^", Check.pattern(x, 0, "a.\\.[xy]-^"), 6);
-        String[] sets = {"a", Check.allBytesBut("\n"), ".", "xy", "-", "^"};
-        for (int i = 0; i < sets.length; i++) {
-            for (int b = 10; b < 127; b = b == 10 ? 32 : b + 1) {
-                Check.due("set " + i + " has " + b, x.has(0, i, b), sets[i].indexOf(b) >= 0 ? 1 : 0);
-            }
-        }
+        Check.dueSets("a.\\.[xy]-^", "a", Check.allBytesBut("\n"), ".", "xy", "-", "^");
     }
 
     private static void faults() {

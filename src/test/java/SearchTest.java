@@ -22,54 +22,48 @@ public final class SearchTest {
         Check.finish("SearchTest");
     }
 
-    private static EditFinder made(String text, String told) {
-        EditFinder x = Check.withText(text);
-        Check.isTrue("a pattern " + told, Check.pattern(x, 0, told) > 0);
-        return x;
-    }
-
     private static void exactHits() {
-        EditFinder x = made("aabab", "ab");
+        EditFinder x = Check.made("aabab", "ab");
         Check.due("find", x.find(0, 0, false), 2);
         Check.dueHit(x, 0, 3, 0, 1, "00");
         Check.dueHit(x, 1, 5, 0, 3, "00");
-        Check.due("overlapping hits", made("aaaa", "aa").find(0, 0, true), 3);
-        Check.due("a pattern longer than the text", made("a", "ab").find(0, 0, true), 0);
-        Check.due("an empty text", made("", "a").find(0, 200, true), 0);
+        Check.due("overlapping hits", Check.made("aaaa", "aa").find(0, 0, true), 3);
+        Check.due("a pattern longer than the text", Check.made("a", "ab").find(0, 0, true), 0);
+        Check.due("an empty text", Check.made("", "a").find(0, 200, true), 0);
     }
 
     private static void hitsWithSets() {
-        EditFinder x = made("cat cut\nc\nt c~t", "c.t");
+        EditFinder x = Check.made("cat cut\nc\nt c~t", "c.t");
         Check.due(". has not 10", x.find(0, 0, false), 3);
         Check.due("the third one", x.hit(2, 0), 15);
-        x = made("c\nt", "c[^a]t");
+        x = Check.made("c\nt", "c[^a]t");
         Check.due("[^a] has 10", x.find(0, 0, false), 1);
-        x = made("0a9z", "[0-9][a-z]");
+        x = Check.made("0a9z", "[0-9][a-z]");
         Check.due("ranges", x.find(0, 0, false), 2);
-        Check.due("the empty set", made("aaa", "[b-a]").find(0, 0, false), 0);
+        Check.due("the empty set", Check.made("aaa", "[b-a]").find(0, 0, false), 0);
     }
 
     private static void hitsWithEdits() {
-        EditFinder x = made("xaxcx", "abc");
+        EditFinder x = Check.made("xaxcx", "abc");
         Check.due("find", x.find(0, 1, false), 1);
         Check.dueHit(x, 0, 4, 1, 1, "010");
-        x = made("xxabxcxx", "abc");
+        x = Check.made("xxabxcxx", "abc");
         Check.due("find", x.find(0, 1, false), 3);
         Check.dueHit(x, 0, 4, 1, 2, "003");
         Check.dueHit(x, 1, 5, 1, 2, "001");
         Check.dueHit(x, 2, 6, 1, 2, "0020");
-        x = made("xbcx", "abc");
+        x = Check.made("xbcx", "abc");
         Check.due("find", x.find(0, 1, false), 1);
         // b = 0 changes x into a, b = 1 leaves a out: both one edit, the greatest b is the beginning
         Check.dueHit(x, 0, 3, 1, 1, "300");
-        x = made("ab", "ab");
+        x = Check.made("ab", "ab");
         Check.due("the least distance counts, not k", x.find(0, 2, false), 2);
         Check.dueHit(x, 0, 1, 1, 0, "03");
         Check.dueHit(x, 1, 2, 0, 0, "00");
     }
 
     private static void hitsWithSwaps() {
-        EditFinder x = made("xbaxx", "ab");
+        EditFinder x = Check.made("xbaxx", "ab");
         Check.due("no swaps", x.find(0, 1, false), 3);
         Check.dueHit(x, 0, 2, 1, 1, "30");
         Check.dueHit(x, 1, 3, 1, 2, "03");
@@ -77,29 +71,29 @@ public final class SearchTest {
         Check.due("swaps", x.find(0, 1, true), 3);
         // leaving b out is one edit as well and begins later
         Check.dueHit(x, 1, 3, 1, 2, "03");
-        x = made("acbd", "abcd");
+        x = Check.made("acbd", "abcd");
         Check.due("swaps in the middle", x.find(0, 1, true), 1);
         Check.dueHit(x, 0, 4, 1, 0, "040");
         Check.due("without them", x.find(0, 1, false), 0);
         Check.due("two edits without them", x.find(0, 2, false), 3);
-        Check.due("swapped bytes are left alone", made("ca", "abc").find(0, 2, true), 2);
-        x = made("xq7x", "x[0-9][a-z]x");
+        Check.due("swapped bytes are left alone", Check.made("ca", "abc").find(0, 2, true), 2);
+        x = Check.made("xq7x", "x[0-9][a-z]x");
         Check.due("swapped sets", x.find(0, 1, true), 1);
         Check.dueHit(x, 0, 4, 1, 0, "040");
-        x = made("xqqx", "x[0-9][a-z]x");
+        x = Check.made("xqqx", "x[0-9][a-z]x");
         x.find(0, 1, true);
         Check.due("the second set must have the first byte, the first one the second", x.hit(0, 3), 4);
         Check.due("changed it is", x.step(0, 1), 1);
-        x = made("mbadcm", "mabcdm");
+        x = Check.made("mbadcm", "mabcdm");
         Check.due("two swaps", x.find(0, 2, true), 1);
         Check.dueHit(x, 0, 6, 2, 0, "0440");
-        x = made("badc", "abcd");
+        x = Check.made("badc", "abcd");
         Check.due("a swap and a set left out begin later", x.find(0, 2, true), 2);
         Check.dueHit(x, 1, 4, 2, 1, "034");
     }
 
     private static void hitsWithoutBytes() {
-        EditFinder x = made("zz", "ab");
+        EditFinder x = Check.made("zz", "ab");
         Check.due("not with one edit", x.find(0, 1, true), 0);
         Check.due("all sets left out", x.find(0, 2, true), 2);
         Check.dueHit(x, 0, 1, 2, 1, "33");
@@ -108,47 +102,47 @@ public final class SearchTest {
     }
 
     private static void preferredSteps() {
-        EditFinder x = made("ayb", "axxb");
+        EditFinder x = Check.made("ayb", "axxb");
         Check.due("find", x.find(0, 2, false), 1);
         // either x may be the changed one: from the end on, changed goes before left out
         Check.dueHit(x, 0, 3, 2, 0, "0310");
-        x = made("abab", "aab");
+        x = Check.made("abab", "aab");
         x.find(0, 1, true);
         Check.due("hits", x.hit(0, 0), 2);
         Check.dueHit(x, 0, 2, 1, 0, "300");
         Check.dueHit(x, 2, 4, 1, 2, "300");
-        x = made("axxb", "ayb");
+        x = Check.made("axxb", "ayb");
         Check.due("more before changed", x.find(0, 2, false), 4);
         Check.dueHit(x, 3, 4, 2, 3, "330");
-        x = made("pqaxxbcdp", "pqaybcdp");
+        x = Check.made("pqaxxbcdp", "pqaybcdp");
         Check.due("more", x.find(0, 2, false), 1);
         Check.dueHit(x, 0, 9, 2, 0, "000210000");
         // with sets that have both bytes a swap is never better than two bytes that stand
-        x = made("ab", "[ab][ab]");
+        x = Check.made("ab", "[ab][ab]");
         x.find(0, 1, true);
         Check.dueHit(x, 1, 2, 0, 0, "00");
-        x = made("mmbamm", "mmabmm");
+        x = Check.made("mmbamm", "mmabmm");
         Check.due("swapped", x.find(0, 2, true), 2);
         // of 00403 and 003010 that one in which the step before the last one goes along
         Check.dueHit(x, 0, 5, 2, 0, "003010");
         Check.dueHit(x, 1, 6, 1, 0, "00400");
         // 4100, 1400 and 300200 all have two edits
-        x = made("pqxyaba12", "pqxybab12");
+        x = Check.made("pqxyaba12", "pqxybab12");
         Check.due("changed goes before swapped", x.find(0, 2, true), 1);
         Check.dueHit(x, 0, 9, 2, 0, "00004100");
-        x = made("pqxyab12", "pqxyba12");
+        x = Check.made("pqxyab12", "pqxyba12");
         Check.due("swapped goes before less", x.find(0, 1, true), 1);
         Check.dueHit(x, 0, 8, 1, 0, "0000400");
         Check.due("changed goes before more and less", x.find(0, 2, false), 1);
         Check.dueHit(x, 0, 8, 2, 0, "00001100");
         // 300002 and 200003 both have two edits, changed bytes would be five
-        x = made("pqxyababa12", "pqxybabab12");
+        x = Check.made("pqxyababa12", "pqxybabab12");
         Check.due("more goes before less", x.find(0, 2, false), 1);
         Check.dueHit(x, 0, 11, 2, 0, "000030000200");
     }
 
     private static void hitsStay() {
-        EditFinder x = made("xabx", "ab");
+        EditFinder x = Check.made("xabx", "ab");
         x.find(0, 1, true);
         int count = 3;
         Check.due("hits", x.find(0, 1, true), count);
@@ -172,7 +166,7 @@ public final class SearchTest {
     }
 
     private static void wrongFinds() {
-        EditFinder x = made("ab\nab", "ab");
+        EditFinder x = Check.made("ab\nab", "ab");
         for (int k : NO_EDITS) {
             Check.due("find k " + k, x.find(0, k, false), BAD);
             Check.due("lines k " + k, x.lines(0, k, false), BAD);
@@ -190,7 +184,7 @@ public final class SearchTest {
     }
 
     private static void wrongHits() {
-        EditFinder x = made("abcb", "ab");
+        EditFinder x = Check.made("abcb", "ab");
         Check.due("find", x.find(0, 0, false), 1);
         Check.due("a step before all else", x.step(0, 1), 0);
         Check.due("find", x.find(0, 1, false), 4);
@@ -213,7 +207,7 @@ public final class SearchTest {
     }
 
     private static void longestHits() {
-        EditFinder x = made("ab".repeat(750), "ab".repeat(100));
+        EditFinder x = Check.made("ab".repeat(750), "ab".repeat(100));
         Check.due("all places", x.find(0, 200, true), 1500);
         Check.due("the last place", x.hit(1499, 0), 1500);
         Check.due("its distance", x.hit(1499, 1), 0);
@@ -225,84 +219,76 @@ public final class SearchTest {
         // as many bytes too many as can be: with 95 of them leaving 95 sets out begins later
         String letters = Check.allBytesBut("\n");
         String told = "\\" + String.join("\\", letters.split(""));
-        x = made(letters + "\n".repeat(94) + letters, told + told);
+        x = Check.made(letters + "\n".repeat(94) + letters, told + told);
         int last = x.find(0, 94, true) - 1;
         Check.dueHit(x, last, 284, 94, 0, "0".repeat(95) + "2".repeat(94) + "0".repeat(95));
-        x = made(letters + "\n".repeat(95) + letters, told + told);
+        x = Check.made(letters + "\n".repeat(95) + letters, told + told);
         last = x.find(0, 95, true) - 1;
         Check.dueHit(x, last, 285, 95, 190, "3".repeat(95) + "0".repeat(95));
-        x = made("a" + "-".repeat(20) + "b", "ab");
+        x = Check.made("a" + "-".repeat(20) + "b", "ab");
         Check.due("far apart", x.find(0, 1, false), 3);
     }
 
     private static void nearestHits() {
-        EditFinder x = made("xxabdxabcx", "abc");
+        EditFinder x = Check.made("xxabdxabcx", "abc");
         Check.due("least k", x.nearest(0, false, 0), 0);
         Check.due("its place", x.nearest(0, false, 1), 9);
-        x = made("xxabdxabdx", "abc");
+        x = Check.made("xxabdxabdx", "abc");
         Check.due("least k", x.nearest(0, false, 0), 1);
         Check.due("its least place", x.nearest(0, false, 1), 4);
-        x = made("zzacbd", "abcd");
+        x = Check.made("zzacbd", "abcd");
         Check.due("without swaps", x.nearest(0, false, 0), 2);
         Check.due("the place", x.nearest(0, false, 1), 4);
         Check.due("with swaps", x.nearest(0, true, 0), 1);
         Check.due("the place", x.nearest(0, true, 1), 6);
-        x = made("zzz", "abcd");
+        x = Check.made("zzz", "abcd");
         Check.due("all left out", x.nearest(0, true, 0), 4);
         Check.due("at the first place", x.nearest(0, true, 1), 1);
-        x = made("", "abcd");
+        x = Check.made("", "abcd");
         Check.due("an empty text", x.nearest(0, true, 0), NONE);
         Check.due("an empty text", x.nearest(0, true, 1), NONE);
         Check.due("BAD goes before NONE", x.nearest(0, true, 2), BAD);
         Check.due("BAD goes before NONE", x.nearest(1, true, 0), BAD);
-        x = made("b", "a".repeat(200));
+        x = Check.made("b", "a".repeat(200));
         Check.due("200 edits", x.nearest(0, true, 0), 200);
     }
 
-    private static void dueLines(EditFinder x, int k, boolean swaps, int... numbers) {
-        Check.due("lines", x.lines(0, k, swaps), numbers.length);
-        for (int i = 0; i < numbers.length; i++) {
-            Check.due("line " + i, x.line(i), numbers[i]);
-        }
-        Check.due("line behind the last", x.line(numbers.length), NONE);
-    }
-
     private static void linesWithHits() {
-        EditFinder x = made("ab\nxx\na\nb\nabab\n\nba", "ab");
-        dueLines(x, 0, false, 0, 4);
-        dueLines(x, 1, false, 0, 2, 3, 4, 6);
-        dueLines(x, 2, false, 0, 1, 2, 3, 4, 6);
-        dueLines(x, 200, true, 0, 1, 2, 3, 4, 6);
-        dueLines(made("\n\n", "[^x]"), 0, false);
-        dueLines(made("\n\n", "[^x]"), 200, false);
-        dueLines(made("", "a"), 200, false);
-        dueLines(made("a\n", "a"), 0, false, 0);
-        dueLines(made("\na", "a"), 0, false, 1);
+        EditFinder x = Check.made("ab\nxx\na\nb\nabab\n\nba", "ab");
+        Check.dueLines(x, 0, false, 0, 4);
+        Check.dueLines(x, 1, false, 0, 2, 3, 4, 6);
+        Check.dueLines(x, 2, false, 0, 1, 2, 3, 4, 6);
+        Check.dueLines(x, 200, true, 0, 1, 2, 3, 4, 6);
+        Check.dueLines(Check.made("\n\n", "[^x]"), 0, false);
+        Check.dueLines(Check.made("\n\n", "[^x]"), 200, false);
+        Check.dueLines(Check.made("", "a"), 200, false);
+        Check.dueLines(Check.made("a\n", "a"), 0, false, 0);
+        Check.dueLines(Check.made("\na", "a"), 0, false, 1);
         // a hit over a line's end is none of a line's
-        EditFinder over = made("a\nb", "a[\n]b");
+        EditFinder over = Check.made("a\nb", "a[\n]b");
         Check.due("a hit in the text", over.find(0, 0, false), 1);
-        dueLines(over, 0, false);
-        dueLines(over, 1, false);
-        dueLines(over, 2, false, 0, 1);
+        Check.dueLines(over, 0, false);
+        Check.dueLines(over, 1, false);
+        Check.dueLines(over, 2, false, 0, 1);
         // nor is one that swaps bytes over a line's end
-        dueLines(made("mb\nan", "mabn"), 1, true);
-        dueLines(made("mban", "mabn"), 1, true, 0);
-        dueLines(made("mb\nan-p", "mabnop"), 2, true);
-        dueLines(made("mban-p", "mabnop"), 2, true, 0);
-        EditFinder swapped = made("dcba\ndbca", "dbca");
-        dueLines(swapped, 0, true, 1);
-        dueLines(swapped, 1, true, 0, 1);
-        dueLines(swapped, 1, false, 1);
-        EditFinder many = made("a\n".repeat(750), "a");
+        Check.dueLines(Check.made("mb\nan", "mabn"), 1, true);
+        Check.dueLines(Check.made("mban", "mabn"), 1, true, 0);
+        Check.dueLines(Check.made("mb\nan-p", "mabnop"), 2, true);
+        Check.dueLines(Check.made("mban-p", "mabnop"), 2, true, 0);
+        EditFinder swapped = Check.made("dcba\ndbca", "dbca");
+        Check.dueLines(swapped, 0, true, 1);
+        Check.dueLines(swapped, 1, true, 0, 1);
+        Check.dueLines(swapped, 1, false, 1);
+        EditFinder many = Check.made("a\n".repeat(750), "a");
         Check.due("as many as can be", many.lines(0, 0, false), 750);
         Check.due("the last one", many.line(749), 749);
         Check.due("none behind", many.line(750), NONE);
     }
 
     private static void linesStay() {
-        EditFinder x = made("b\na\nb\na", "a");
+        EditFinder x = Check.made("b\na\nb\na", "a");
         Check.due("none yet", x.line(0), NONE);
-        dueLines(x, 0, false, 1, 3);
+        Check.dueLines(x, 0, false, 1, 3);
         Check.due("BAD", x.lines(0, 201, false), BAD);
         Check.due("BAD", x.lines(5, 0, false), BAD);
         x.cut(0, 7);
@@ -311,6 +297,6 @@ public final class SearchTest {
         for (int i : new int[] {-1, 2, 1500, Integer.MIN_VALUE, Integer.MAX_VALUE}) {
             Check.due("line " + i, x.line(i), NONE);
         }
-        dueLines(x, 0, false);
+        Check.dueLines(x, 0, false);
     }
 }

@@ -336,6 +336,10 @@ final class PlainFinder {
         return hits.size();
     }
 
+    int hitCount() {
+        return hits.size();
+    }
+
     int hit(int i, int what) {
         if (i < 0 || i >= hits.size() || what < 0 || what > 3) {
             return BAD;
