@@ -568,7 +568,7 @@ public final class EditFinder {
         }
 
         private void addRange(int first, int second) {
-            for (int b = Math.max(first, 0); b <= second; b++) {
+            for (int b = Math.max(first, 0); b <= second && b <= LAST_PRINTED; b++) {
                 if (isByte(b)) {
                     if (b < SetRow.HALF) {
                         low |= 1L << b;
@@ -741,7 +741,7 @@ public final class EditFinder {
             lay(row, text, start, end, withSwaps);
             tracing = false;
             // Bounds that grow make near parts cheap, even where the limit is high.
-            for (int bound = FIRST_BOUND; bound < limit; bound *= BOUND_GROWTH) {
+            for (int bound = FIRST_BOUND; bound < limit && bound < MOST_LIMIT; bound *= BOUND_GROWTH) {
                 int found = measure(bound);
                 if (found <= bound) {
                     return found;
